@@ -1,0 +1,39 @@
+/** Counts and prints the answers that are not the due ones. */
+final class Due {
+    private final String test;
+    private int wrong;
+
+    Due(String test) {
+        this.test = test;
+    }
+
+    void is(String call, long got, long want) {
+        if (got != want) {
+            wrong++;
+            System.out.println(test + ": " + call + " answered " + got + ", due is " + want);
+        }
+    }
+
+    void holds(String what, boolean so) {
+        is(what, so ? 1 : 0, 1);
+    }
+
+    /** A call that tells by asked(). */
+    void tells(String call, WheelsSlip x, long got, long want, long told) {
+        is(call, got, want);
+        is(call + ", asked()", x.asked(), told);
+    }
+
+    /** A call refused by a FINDING. */
+    void finds(String call, WheelsSlip x, long got, int finding) {
+        is(call, got, WheelsSlip.FINDING);
+        is(call + ", finding()", x.finding(), finding);
+    }
+
+    void end() {
+        System.out.println(wrong == 0 ? test + ": as due" : test + ": " + wrong + " not as due");
+        if (wrong != 0) {
+            System.exit(1);
+        }
+    }
+}
