@@ -905,10 +905,6 @@ public final class WheelsSlip {
         }
 
         private void clear() {
-            weight = 0;
-            steam = 0;
-            sand = 0;
-            hill = 0;
             rails.renew(0, 0);
             kinds.renew(0, 0);
             tons.renew(0, 0);
@@ -1202,8 +1198,11 @@ public final class WheelsSlip {
                 case BACK:
                     taken = 0;
                     break;
+                case BRAKE_OFF:
+                    brakeOn = false;
+                    break;
                 default:
-                    brakeOn = thing == BRAKE_ON;
+                    brakeOn = true;
                     break;
             }
         }

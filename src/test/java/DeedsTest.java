@@ -122,6 +122,8 @@ public final class DeedsTest {
         x.go(13);
         due.is("it PULLS less", x.go(1), 5);
         due.is("GONE stays", Make.engine(x, 9), 1);
+        x.undo(2);
+        due.is("GONE is undone", Make.engine(x, 9), 0);
         x = Make.train("e9900 id w19 b19");
         x.go(1);
         x.go(13);
@@ -215,6 +217,10 @@ public final class DeedsTest {
         due.is("keep(2)", x.keep(2), 2);
         due.is("kept", x.count(7), 1);
         long kept = x.digest();
+        x.undo(0);
+        Make.go(x, 13, 11, 12);
+        due.is("on(2), other DEEDS ahead", x.on(2), 2);
+        due.is("it is as it was kept", x.digest(), kept);
         Make.go(x, 13, 8, 11);
         due.is("keep(0)", x.keep(0), 5);
         due.is("on(2)", x.on(2), 2);

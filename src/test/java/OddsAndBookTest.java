@@ -75,7 +75,18 @@ public final class OddsAndBookTest {
         oddsAre(x, 1, 1, 1, 6);
         x.go(0);
         oddsAre(x, 1, 1, 1, 6);
-        due.is("asked() is not told by it", Make.engine(x, 9), 1);
+        x = Make.train("e9900 il w89");
+        Make.row(x, 0, 13, 9);
+        oddsAre(x, 3, 4, 0, 1);
+        Make.row(x, 0, 13, 9, 11, 8);
+        // On a dry or damp RAIL 9 TEARS it off, and on such a one 8 goes then without it; else 8 but takes it up.
+        oddsAre(x, 3, 4, 49, 144);
+        x = Make.train("e9900 il");
+        Make.row(x, 0, 13, 9);
+        oddsAre(x, 3, 4, 7, 12);
+        x.mean(0);
+        oddsAre(x, 3, 4, 7, 12);
+        due.is("asked() is not told by it", x.asked(), 11);
     }
 
     private static void weights() {
@@ -131,6 +142,8 @@ public final class OddsAndBookTest {
         due.tells("lies(0, 9)", x, x.lies(0, 9), 2, 0);
         Make.row(x, 0, 0, 0, 0, 0, 0, 0, 0, 0, 1);
         due.tells("the last", x, x.lies(0, 5), 1, 2);
+        Make.row(x, 0, 0, 0, 0, 0, 0, 0, 0, 0, 0, 0, 0, 0, 0, 0, 1, 0, 0, 1);
+        due.tells("the last two", x, x.lies(0, 5), 2, 4);
     }
 
     private static void trial() {
@@ -147,6 +160,7 @@ public final class OddsAndBookTest {
         due.tells("1 and 9, leaves", x, x.trial(514, 2), 1, 1);
         due.tells("all, leaves", x, x.trial(1022, 2), 3, 5);
         due.tells("8 and 9, dry: not to be parted", x, x.trial(768, 0), 0, 2);
+        due.tells("8 and 9, damp", x, x.trial(768, 1), 9, 1);
         due.tells("7, 8 and 9, leaves", x, x.trial(896, 2), 4, 2);
     }
 

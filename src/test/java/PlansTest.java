@@ -29,6 +29,10 @@ public final class PlansTest {
         due.finds("run(0), 15", x, x.run(0), Make.UNLIKE);
         x.lay(0, 11, -1);
         due.finds("run(0), -1", x, x.run(0), Make.UNLIKE);
+        x.row(0, 12);
+        x.lay(0, 0, 15);
+        due.finds("run(0), 15 at first", x, x.run(0), Make.UNLIKE);
+        due.tells("at(0, 0)", x, x.at(0, 0), 1, 15);
         due.is("asked() stays", x.asked(), 15);
     }
 
@@ -47,6 +51,10 @@ public final class PlansTest {
         x = Make.train("e9000 id w29 w21 w29");
         Make.row(x, 0, 1, 11, 1, 10, 11, 11, 11, 11, 6, 1);
         due.tells("passed over; it TEARS", x, x.run(0), 1, 1);
+        Make.go(x, 1, 11, 1, 11, 11, 11, 6);
+        due.is("the BRAKE is lost", x.count(0), 1);
+        Make.row(x, 0, 14, 1);
+        due.tells("14 passed over", x, x.run(0), 1, 1);
         x = Make.train("e1900 idl w29");
         Make.row(x, 0, 10, 13, 1, 10, 1);
         due.tells("no MINUTE for what is passed over", x, x.run(0), 0, 1);
@@ -56,7 +64,7 @@ public final class PlansTest {
         for (int i = 0; i < 60; i++) {
             x.go(13);
         }
-        Make.row(x, 0, 1);
+        Make.row(x, 0, 0);
         due.tells("behind 60 DEEDS", x, x.run(0), 1, 0);
     }
 
@@ -98,6 +106,8 @@ public final class PlansTest {
         shortestIs(x, 4, 11, 13, 2, 2);
         x = Make.train("e2310 illld w39");
         shortestIs(x, 4, 10, 13, 2, 2);
+        x = Make.train("e9900 id h99");
+        shortestIs(x, 4, 13, 9, 11, 9);
         x = Make.train("e9000 id w99 w99");
         due.is("too few THINGS", x.shortest(4, 3), Make.NONE);
         due.is("the train is as it was", x.count(2), 0);
@@ -122,6 +132,10 @@ public final class PlansTest {
             triesAll(y, 3, 0, false, ways);
             due.tells("ways(3) of " + signs, y, y.ways(3), ways[0], ways[1]);
         }
+        x = Make.train("e9110 id w21");
+        int[] ways = new int[2];
+        triesAll(x, 4, 0, false, ways);
+        due.tells("ways(4)", x, x.ways(4), ways[0], ways[1]);
     }
 
     /** By go() and undo(), as plainly as can be. */
@@ -161,6 +175,9 @@ public final class PlansTest {
         x.undo(1);
         x.go(13);
         due.is("stay(1): the one that is TAKEN UP", x.stay(1), 2);
+        x = Make.train("e4500 id w39 w39 w39");
+        Make.go(x, 2, 3, 1);
+        due.is("stay(2): one of two that are TAKEN UP", x.stay(2), 2);
         x = Make.train("e9900 id");
         due.is("stay(2) without WAGONS", x.stay(2), 0);
         due.is("stay(1) without WAGONS", x.stay(1), Make.NONE);

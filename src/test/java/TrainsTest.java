@@ -59,6 +59,12 @@ public final class TrainsTest {
         faultIs("", 0);
         faultIs("   ", 3);
         faultIs("f1000id", 0);
+        faultIs("id w11", 0);
+        faultIs("e1000 d w11", 6);
+        faultIs("e:000id", 1);
+        faultIs("e1:00id", 2);
+        faultIs("e1000id w:1", 9);
+        faultIs("e1000id w1:", 10);
         faultIs("  e1000id", Make.NONE);
         faultIs("e0000id", 1);
         faultIs("e1a00id", 2);
@@ -109,12 +115,14 @@ public final class TrainsTest {
         due.is("train(0)", x.train(0), 2);
         due.is("count(1)", x.count(1), 3);
         Make.go(x, 10, 11);
+        x.keep(0);
         x.keep(1);
+        x.keep(2);
         Make.text(x, 1, "e5673 i w23");
         due.is("train(1), a FAULT", x.train(1), Make.STATE);
         due.is("it stays: DEEDS", x.count(2), 2);
         due.is("it stays: SAND", Make.engine(x, 2), 6);
-        due.is("it stays: kept", x.count(7), 1);
+        due.is("it stays: kept", x.count(7), 3);
         due.is("train(0) anew", x.train(0), 2);
         due.is("no DEEDS", x.count(2), 0);
         due.is("MINUTE 0", Make.engine(x, 8), 0);
