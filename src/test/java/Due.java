@@ -1,5 +1,5 @@
 /** Counts and prints the answers that are not the due ones. */
-final class Due {
+class Due {
     private final String test;
     private int wrong;
 
