@@ -71,9 +71,20 @@ public final class FaceTest {
         due.is("constants " + reached, reached.size(), 6);
     }
 
+    private static void fewFields(Class<?> made) {
+        int many = 0;
+        for (Field field : made.getDeclaredFields()) {
+            many += Modifier.isStatic(field.getModifiers()) ? 0 : 1;
+        }
+        due.holds("twenty fields at most: " + made, many <= 20);
+    }
+
     private static void nested(TreeSet<String> names) {
+        due.holds("twelve classes at most", WheelsSlip.class.getDeclaredClasses().length < 12);
+        fewFields(WheelsSlip.class);
         for (Class<?> inside : WheelsSlip.class.getDeclaredClasses()) {
             int modifiers = inside.getModifiers();
+            fewFields(inside);
             due.holds("static: " + inside, Modifier.isStatic(modifiers) && !Modifier.isPublic(modifiers));
             for (Method method : inside.getDeclaredMethods()) {
                 due.holds("none bears a public name: " + method, !names.contains(method.getName()));

@@ -29,6 +29,20 @@ final class Make {
         return x;
     }
 
+    /** The document written plainly, brought to the same state: it tries every PLAN. */
+    static Model model(String signs, int... things) {
+        Model model = new Model();
+        model.text(0, signs.length());
+        for (int i = 0; i < signs.length(); i++) {
+            model.put(0, i, signs.charAt(i));
+        }
+        model.train(0);
+        for (int thing : things) {
+            model.go(thing);
+        }
+        return model;
+    }
+
     static void row(WheelsSlip x, int r, int... places) {
         x.row(r, places.length);
         for (int i = 0; i < places.length; i++) {

@@ -334,6 +334,8 @@ public final class MinutesSentencesTest {
         comes("8 on 2 and 3, it HOLDS 1", "e9900 id w29 w31 w99", things(1), 4, TORE);
         comes("8 on 2 and 3, it HOLDS 3", "e9900 id w29 w33 w99", things(1), 4, TAKEN_UP);
         comes("8 on 2 and 3, it HOLDS 2", "e9900 id w29 w32 w99", things(1), 4, TORE);
+        comes("8 on the sixth, it HOLDS 8", "e9900 id p19 p19 p19 p19 p19 p18", things(0, 0, 0, 0, 0, 13), 4, TAKEN_UP);
+        comes("8 on the sixth, it HOLDS 7", "e9900 id p19 p19 p19 p19 p19 p17", things(0, 0, 0, 0, 0, 13), 4, TORE);
     }
 
     @Says("it TEARS: that one and all behind it are lost")

@@ -14,20 +14,6 @@ public final class PlanPromisesTest {
         return Scenes.made(Scenes.train(signs, things));
     }
 
-    /** The plain model of the document, brought to the same state: it tries every PLAN. */
-    private static Model model(String signs, int... things) {
-        Model model = new Model();
-        model.text(0, signs.length());
-        for (int i = 0; i < signs.length(); i++) {
-            model.put(0, i, signs.charAt(i));
-        }
-        model.train(0);
-        for (int thing : things) {
-            model.go(thing);
-        }
-        return model;
-    }
-
     private static void runs(String what, Scenes.Scene scene, int gone, int left, int... plan) {
         WheelsSlip x = Scenes.made(scene);
         Make.row(x, 5, plan);
@@ -58,6 +44,10 @@ public final class PlanPromisesTest {
         runs("SAND once", Scenes.train("e1910 il"), 1, 0, 13, 10, 10, 2, 2);
         runs("no BRAKE", Scenes.train("e9900 id w11", 13, 9), 2, 0, 14, 0, 14, 0);
         runs("a BRAKE", Scenes.train("e9900 id", 13), 0, 0, 14, 0, 14, 0);
+        runs("STEAM that it has used up itself", Scenes.train("e9100 id"), 1, 0, 13, 1, 1);
+        runs("but not STEAM that it has blown up itself", Scenes.train("e9000 id w29"), 1, 1, 11, 13, 1, 1);
+        runs("SAND that it has used up itself", Scenes.train("e1910 illdl"), 1, 0, 13, 10, 10, 3);
+        runs("the BRAKE that it has lost itself", Scenes.train("e9900 id w11 w11"), 1, 0, 9, 14, 0);
         runs("nothing that can be", Scenes.train("e9000 id", 13), 0, 0, 9, 10, 9, 10, 1, 1);
     }
 
@@ -181,7 +171,7 @@ public final class PlanPromisesTest {
         for (String signs : TRAINS) {
             for (int n = 0; n <= 4; n++) {
                 WheelsSlip x = train(signs);
-                Model model = model(signs);
+                Model model = Make.model(signs);
                 due.is("shortest(" + n + ", 1) of " + signs, x.shortest(n, 1), model.shortest(n, 1));
                 due.is("and its ROW", x.digest(), model.digest());
             }
@@ -271,7 +261,7 @@ public final class PlanPromisesTest {
         for (String signs : TRAINS) {
             for (int n = 0; n <= 4; n++) {
                 WheelsSlip x = train(signs);
-                Model model = model(signs);
+                Model model = Make.model(signs);
                 int ways = model.ways(n);
                 due.tells("ways(" + n + ") of " + signs, x, x.ways(n), ways, model.asked());
             }
@@ -325,8 +315,8 @@ public final class PlanPromisesTest {
     static void promise27AsTheModelTriesThem() {
         for (String signs : TRAINS) {
             for (int n = 0; n <= 4; n++) {
-                due.is("stay(" + n + ") of " + signs, train(signs).stay(n), model(signs).stay(n));
-                int stay = model(signs, 13, 1).stay(n);
+                due.is("stay(" + n + ") of " + signs, train(signs).stay(n), Make.model(signs).stay(n));
+                int stay = Make.model(signs, 13, 1).stay(n);
                 due.is("stay(" + n + ") of " + signs + " behind 13, 1", train(signs, 13, 1).stay(n), stay);
             }
         }

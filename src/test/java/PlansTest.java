@@ -127,31 +127,16 @@ public final class PlansTest {
         due.tells("ways(0)", x, x.ways(0), 0, 0);
         String[] trains = {"e4312 idwl p39 w19", "e9910 id w11 s12", "e1520 il b11", "e9900 id w31 w21"};
         for (String signs : trains) {
-            WheelsSlip y = Make.train(signs);
-            int[] ways = new int[2];
-            triesAll(y, 3, 0, false, ways);
-            due.tells("ways(3) of " + signs, y, y.ways(3), ways[0], ways[1]);
+            waysAsTheModelTriesThem(signs, 3);
         }
-        x = Make.train("e9110 id w21");
-        int[] ways = new int[2];
-        triesAll(x, 4, 0, false, ways);
-        due.tells("ways(4)", x, x.ways(4), ways[0], ways[1]);
+        waysAsTheModelTriesThem("e9110 id w21", 4);
     }
 
-    /** By go() and undo(), as plainly as can be. */
-    private static void triesAll(WheelsSlip x, int left, int gone, boolean torn, int[] ways) {
-        if (left == 0) {
-            ways[0] += gone > 0 ? 1 : 0;
-            ways[1] += gone > 0 && !torn ? 1 : 0;
-            return;
-        }
-        for (int thing = 0; thing < 15; thing++) {
-            int came = x.go(thing);
-            if (came >= 0) {
-                triesAll(x, left - 1, gone + (came == 4 ? 1 : 0), torn || came == 3, ways);
-                x.undo(x.count(2) - 1);
-            }
-        }
+    private static void waysAsTheModelTriesThem(String signs, int n) {
+        WheelsSlip x = Make.train(signs);
+        Model model = Make.model(signs);
+        int ways = model.ways(n);
+        due.tells("ways(" + n + ") of " + signs, x, x.ways(n), ways, model.asked());
     }
 
     private static void stay() {

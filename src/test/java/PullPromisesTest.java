@@ -219,6 +219,9 @@ public final class PullPromisesTest {
         worstIs("one TAKEN UP", train("e9900 id s34 w29 w99", 2), 0, -1);
         worstIs("the BRAKE ON", train("e9900 id b29 w19"), 0, -6);
         worstIs("the BRAKE OFF", train("e9900 id b29 w19", 13), 0, -7);
+        worstIs("behind a BRAKED one, the BRAKE ON", train("e9900 id b29 w18"), 0, -6);
+        worstIs("behind a BRAKED one, the BRAKE OFF", train("e9900 id b29 w18", 13), 0, -7);
+        worstIs("the sixth", train("e9900 id p19 p19 p19 p19 p19 s19"), 5, -6);
         worstIs("lost ones are none", Scenes.made(Scenes::torn), 0, -3);
         worstIs("busy", Scenes.made(Scenes::busy), 0, -3);
     }

@@ -124,9 +124,9 @@ public final class TrainsSentencesTest {
 
     @Says("rows of 0 to 60 bytes")
     static void trainsTextsOfBytes() {
-        WheelsSlip x = new WheelsSlip();
-        x.text(3, 60);
         for (int v = -128; v <= 127; v++) {
+            WheelsSlip x = new WheelsSlip();
+            x.text(3, 60);
             x.put(3, 59, v);
             due.is("put: it was " + v, x.put(3, 59, 0), 1000 + v);
         }
