@@ -4,7 +4,25 @@ class Due {
     private int wrong;
 
     Due(String test) {
+        this(test, 120);
+    }
+
+    /** A call that does not end fails the test, too: it has so many seconds. */
+    Due(String test, int seconds) {
         this.test = test;
+        Thread watch = new Thread(() -> stopsBehind(seconds));
+        watch.setDaemon(true);
+        watch.start();
+    }
+
+    private void stopsBehind(int seconds) {
+        try {
+            Thread.sleep(1000L * seconds);
+        } catch (InterruptedException e) {
+            return;
+        }
+        System.out.println(test + ": not at an end behind " + seconds + " seconds");
+        Runtime.getRuntime().halt(1);
     }
 
     void is(String call, long got, long want) {

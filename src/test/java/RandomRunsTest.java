@@ -2,7 +2,7 @@ import java.util.Random;
 
 /** Runs of calls by fixed seeds, each answer held against the Model's: likely numbers, numbers at the edges, wild ones. */
 public final class RandomRunsTest {
-    private static final Due due = new Due("RandomRunsTest");
+    private static final Due due = new Due("RandomRunsTest", 900);
     private static final int CALLS = 512;
     private static final int[] WILD = {Integer.MIN_VALUE, Integer.MAX_VALUE, -1, 1 << 16, -1000};
 
