@@ -1,13 +1,25 @@
+import java.io.IOException;
 import java.lang.reflect.Constructor;
 import java.lang.reflect.Field;
 import java.lang.reflect.Method;
 import java.lang.reflect.Modifier;
+import java.nio.file.Files;
+import java.nio.file.Path;
+import java.util.ArrayList;
 import java.util.Arrays;
+import java.util.LinkedHashMap;
+import java.util.List;
+import java.util.Map;
+import java.util.TreeMap;
 import java.util.TreeSet;
+import java.util.regex.Matcher;
+import java.util.regex.Pattern;
 
 /** The public face: these constants, this constructor, these methods, and nothing else that can be reached. */
 public final class FaceTest {
     private static final Due due = new Due("FaceTest");
+    private static final Path DOCUMENT = Path.of("../shared/DOC.md");
+    private static final Path CLASS = Path.of("src/main/java/WheelsSlip.java");
     private static final String[] METHODS = {
         "int row(int,int)", "int lay(int,int,int)", "int at(int,int)", "int tear(int)",
         "int copy(int,int,int,int,int)", "int mean(int)", "int text(int,int)", "int put(int,int,int)",
@@ -19,7 +31,7 @@ public final class FaceTest {
         "int finding()", "int findings(int)", "long digest()"
     };
 
-    public static void main(String[] args) throws IllegalAccessException {
+    public static void main(String[] args) throws IllegalAccessException, IOException {
         due.is("BAD", WheelsSlip.BAD, -1);
         due.is("FULL", WheelsSlip.FULL, -2);
         due.is("FINDING", WheelsSlip.FINDING, -3);
@@ -46,7 +58,85 @@ public final class FaceTest {
         due.is("constructors", made.length, 1);
         due.holds("WheelsSlip()", made[0].getParameterCount() == 0 && Modifier.isPublic(made[0].getModifiers()));
         nested(names);
+        if (Files.exists(DOCUMENT)) {
+            String document = Files.readString(DOCUMENT);
+            asPrinted(document, wanted);
+            promised(document, wanted);
+            underHeadings(document, names);
+        } else {
+            System.out.println("FaceTest: there is no " + DOCUMENT + " to hold the face against");
+        }
         due.end();
+    }
+
+    /** The face that the document prints has these members and constants, and no other. */
+    private static void asPrinted(String document, TreeSet<String> wanted) throws IllegalAccessException {
+        String face = document.substring(document.indexOf("```java"));
+        face = face.substring(0, face.indexOf("\n```"));
+        TreeSet<String> printed = new TreeSet<>();
+        Map<String, Integer> constants = new TreeMap<>();
+        for (String line : face.split("\n")) {
+            Matcher method = Pattern.compile("    public (int|long) (\\w+)\\((.*)\\);").matcher(line);
+            if (method.matches()) {
+                printed.add(bare(method.group(1), method.group(2), method.group(3)));
+            } else if (line.contains(" static final int ")) {
+                Matcher constant = Pattern.compile("(\\w+) = (-?\\d+)").matcher(line);
+                while (constant.find()) {
+                    constants.put(constant.group(1), Integer.parseInt(constant.group(2)));
+                }
+            } else {
+                due.holds("a line of the face: " + line, List.of("```java", "public final class WheelsSlip {",
+                    "    public WheelsSlip();", "}").contains(line));
+            }
+        }
+        due.holds("methods as printed: " + printed, printed.equals(wanted));
+        Map<String, Integer> own = new TreeMap<>();
+        for (Field field : WheelsSlip.class.getFields()) {
+            own.put(field.getName(), field.getInt(null));
+        }
+        due.holds("constants as printed: " + constants, constants.equals(own));
+    }
+
+    private static String bare(String type, String name, String parameters) {
+        return type + " " + name + "(" + parameters.replaceAll(" \\w+(?=,|$)", "").replace(", ", ",") + ")";
+    }
+
+    /** Each promise from 2 on is of one call, and each call has one. */
+    private static void promised(String document, TreeSet<String> wanted) {
+        Matcher promise = Pattern.compile("## Promise (\\d+): (\\w+)\n\n`(int|long) (\\w+)\\((.*?)\\)`: ").matcher(document);
+        TreeSet<String> promised = new TreeSet<>();
+        int many = 1;
+        while (promise.find()) {
+            many++;
+            due.is("number of the promise of " + promise.group(2), Integer.parseInt(promise.group(1)), many);
+            promised.add(bare(promise.group(3), promise.group(4), promise.group(5)));
+        }
+        due.is("promises", many, 40);
+        due.holds("methods as promised: " + promised, promised.equals(wanted));
+    }
+
+    /** The headings that the interface says ahead of its calls stand there in the class, too. */
+    private static void underHeadings(String document, TreeSet<String> names) throws IOException {
+        Map<String, List<String>> wanted = new LinkedHashMap<>();
+        Matcher ahead = Pattern.compile("Ahead of the calls (.*) the interface says: (---- .*)\\.").matcher(document);
+        while (ahead.find()) {
+            wanted.put(ahead.group(2), Arrays.asList(ahead.group(1).replace("`", "").split(", ")));
+        }
+        due.is("headings", wanted.size(), 7);
+        Map<String, List<String>> own = new LinkedHashMap<>();
+        List<String> under = new ArrayList<>();
+        for (String line : Files.readAllLines(CLASS)) {
+            Matcher method = Pattern.compile("    public (?:int|long) (\\w+)\\(.*").matcher(line);
+            if (line.startsWith("    // ---- ")) {
+                under = new ArrayList<>();
+                own.put(line.substring(7), under);
+            } else if (method.matches()) {
+                due.holds("a public name: " + line, names.contains(method.group(1)));
+                under.add(method.group(1));
+            }
+        }
+        own.values().removeIf(List::isEmpty);
+        due.holds("calls under headings: " + own, own.equals(wanted));
     }
 
     private static String signature(Method method) {
